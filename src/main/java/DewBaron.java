@@ -2017,7 +2017,7 @@ public final class DewBaron {
             }
             for (int i = 0; i < count; i++) {
                 if (plan.isAtEdge(trodden[i])) {
-                    tread(plan, i, 0, 0);
+                    tread(this, plan, i, 0, 0);
                 }
             }
         }
@@ -2027,24 +2027,28 @@ public final class DewBaron {
         }
 
         /** Each level treads a further CELL, so there are as many as CELLS at most. */
-        private void tread(Plan plan, int which, int before, int depth) {
-            if (depth >= count || which < 0 || which >= count) {
+        private static void tread(Meadow of, Plan plan, int which, int before, int depth) {
+            if (depth >= of.count || which < 0 || which >= of.count) {
                 return;
             }
-            path[depth] = trodden[which];
+            of.path[depth] = of.trodden[which];
             int done = before | 1 << which;
-            if (depth + 1 == count) {
-                if (walks == 0) {
-                    System.arraycopy(path, 0, first, 0, count);
-                }
-                walks++;
+            if (depth + 1 == of.count) {
+                of.keep();
                 return;
             }
-            for (int next = 0; next < count; next++) {
-                if ((done >> next & 1) == 0 && plan.areNext(trodden[which], trodden[next])) {
-                    tread(plan, next, done, depth + 1);
+            for (int next = 0; next < of.count; next++) {
+                if ((done >> next & 1) == 0 && plan.areNext(of.trodden[which], of.trodden[next])) {
+                    tread(of, plan, next, done, depth + 1);
                 }
             }
+        }
+
+        private void keep() {
+            if (walks == 0) {
+                System.arraycopy(path, 0, first, 0, MOST_TRODDEN);
+            }
+            walks++;
         }
     }
 }

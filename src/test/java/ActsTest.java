@@ -344,6 +344,13 @@ final class ActsTest {
         Check.due("a cloth stays", 3, x.thing(0, 0));
         Check.put(x, octets);
         Check.due("the right one", true, x.on());
+        DewBaron y = Check.isle("island 2 2;stone takes 1 at 1 0;");
+        int[] empty = octets(y);
+        Check.put(y, changed(empty, 3, 1));
+        Check.due("a wall where the first THING is, a stone", false, y.on());
+        Check.put(y, changed(empty, 2, 1, 4, 1, 5, 1));
+        Check.due("walls in all other CELLS", true, y.on());
+        Check.due("so many", 3, y.has(2));
     }
 
     private static void status() {

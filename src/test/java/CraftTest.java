@@ -11,6 +11,7 @@ final class CraftTest {
         linen();
         down();
         bestAndVotes();
+        aSingleDrop();
         walked();
         walk();
         walkedRefuses();
@@ -249,6 +250,24 @@ final class CraftTest {
         Check.due("no CISTERNS vote", 0, none.votes(0, 0));
     }
 
+    private static void aSingleDrop() {
+        String text = "island 3 2;cistern a at 0 0;cloth c takes 1 at 1 0;wall at 2 0;dew max(0,2-hour)*";
+        DewBaron more = Check.isle(text + "(open-7);");
+        Check.due("one more", 1, more.down(2, 0));
+        Check.due("best by one", 2, more.best(0));
+        Check.due("for it by one", 1, more.votes(2, 0));
+        Check.due("none against it", 0, more.votes(2, 1));
+        DewBaron less = Check.isle(text + "(8-open);");
+        Check.due("one less", -1, less.down(2, 0));
+        Check.due("none for it", 0, less.votes(2, 0));
+        Check.due("against it by one", 1, less.votes(2, 1));
+        DewBaron like = Check.isle(text + "1;");
+        Check.due("all alike", 0, like.down(2, 0));
+        Check.due("none is best", -1, like.best(0));
+        Check.due("none for, none against", 0, like.votes(2, 0) + like.votes(2, 1));
+        Check.due("the THING with a single drop", 0, like.whole(4));
+    }
+
     private static int walks(DewBaron x, int... cells) {
         Check.put(x, cells);
         return x.walked();
@@ -322,22 +341,35 @@ final class CraftTest {
         // three come into the first one, two into the other one, which gives one more of what it has
         Check.due("fed enough: the first", 1, y.stores(0));
         Check.due("fed enough: which", 1, y.stores(1));
-        int[] octets = {0, 0, 0, 0, 0, 0, 0, 0, 0, 0, 0, 0, 0, 0, 0, 5, 0};
-        int c = 79;
-        for (int i = 0; i < 16; i++) {
-            c = (5 * c + octets[i]) % 251;
-        }
-        octets[16] = c;
-        Check.put(y, octets);
-        Check.due("on", true, y.on());
+        on(y, 0, 0, 0, 0, 0, 0, 0, 0, 0, 0, 0, 0, 0, 0, 0, 5);
         Check.due("five in store", 6, y.stores(0));
         y.night();
         Check.due("from now on", 5, y.stores(0));
         Check.due("no NIGHT went by", 1, y.has(10));
+        // ten are drunk each NIGHT: 9989 drops last for 998 of them, 9990 for 999
+        DewBaron full = Check.isle("island 2 2;cistern a at 0 0;drinks 10;");
+        on(full, 0, 0, 0, 0, 0, 0, 9989 / 256, 9989 % 256);
+        Check.due("in the last one", 999, full.stores(0));
+        Check.due("in the last one: which", 0, full.stores(1));
+        on(full, 0, 0, 0, 0, 0, 0, 9990 / 256, 9990 % 256);
+        Check.due("behind it", -1, full.stores(0));
+        Check.due("behind it: which", -1, full.stores(1));
         DewBaron enough = Check.isle("island 2 2;cistern a at 0 0;stone takes 1 at 1 0;dew 1;drinks 12;");
         Check.due("just enough", -1, enough.stores(0));
         Check.due("just enough: which", -1, enough.stores(1));
         Check.due("nothing is drunk", -1, Check.isle("island 2 2;cistern a at 0 0;").stores(0));
         Check.due("no CISTERNS", -1, Check.isle("island 2 2;drinks 9;").stores(0));
+    }
+
+    /** Takes an image that is told but for its last byte. */
+    private static void on(DewBaron x, int... ahead) {
+        int[] octets = java.util.Arrays.copyOf(ahead, ahead.length + 1);
+        int c = 79;
+        for (int it : ahead) {
+            c = (5 * c + it) % 251;
+        }
+        octets[ahead.length] = c;
+        Check.put(x, octets);
+        Check.due("on", true, x.on());
     }
 }

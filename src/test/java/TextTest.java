@@ -12,6 +12,7 @@ final class TextTest {
         numbers();
         brackets();
         tooMany();
+        theWholeTape();
         fault();
         has();
         letter();
@@ -269,6 +270,22 @@ final class TextTest {
         Check.fault(eighty + "abcdefgh", 6, eighty.length());
         Check.fault(eighty + "?", 6, eighty.length());
         Check.fault(eighty.substring(0, eighty.length() - 8) + "?", 1, eighty.length() - 8);
+    }
+
+    /** A text as long as the tape, of as many words and signs as can be. */
+    private static void theWholeTape() {
+        StringBuilder text = new StringBuilder("island 2 2;stone takes 1 at 1 1;dew 7");
+        while (text.length() < 1594) {
+            text.append("+1-1");
+        }
+        text.append("/1".repeat(3)).setLength(1599);
+        Check.fault(text.toString(), 1, 1599);
+        Check.fault(text + "+", 1, 1600);
+        DewBaron x = new DewBaron();
+        Check.due("the whole tape", 3, Check.tell(x, text + ";"));
+        Check.due("the whole SUM", 7, x.dew(0, 1, 0));
+        Check.due("the longest SUM of little parts", -1, Check.tell(x, "island 2 2;dew " + "1+".repeat(792) + ";"));
+        Check.due("its fault", 1599, x.fault(1));
     }
 
     private static void fault() {
