@@ -460,12 +460,12 @@ public final class DewBaron {
             return refuse(OF_TOLD);
         }
         meadow.tell(tape, length);
+        // the WALKS are those of the walls of now: no later ACT changes what was told
         meadow.findWalks(plan, now);
         return meadow.walks;
     }
 
     public int walk(int k) {
-        meadow.findWalks(plan, now);
         return meadow.firstAt(k);
     }
 
@@ -1981,7 +1981,7 @@ public final class DewBaron {
         }
     }
 
-    /** THE MEADOW: the CELLS that are told, and all WALKS over them. */
+    /** THE MEADOW: the CELLS that are told, and all WALKS over them, as they were when they were told. */
     private static final class Meadow {
         private final int[] trodden = new int[MOST_TRODDEN];
         private int count = 0;

@@ -14,6 +14,7 @@ final class CraftTest {
         aSingleDrop();
         walked();
         walk();
+        walkStaysTold();
         walkedRefuses();
         stores();
         Check.end();
@@ -310,12 +311,37 @@ final class CraftTest {
         Check.due("a refused one changes nothing", 7, x.walk(0));
         x.night();
         Check.due("nor does a NIGHT", 6, x.walk(1));
-        x.wall(6, true);
-        Check.due("a wall on the way", -1, x.walk(0));
-        x.undo();
-        Check.due("and away", 7, x.walk(0));
         Check.tell(x, "island 4 4;");
         Check.due("no walk is told", -1, x.walk(0));
+    }
+
+    /** The WALKS are those that were told: no ACT and no image changes them. */
+    private static void walkStaysTold() {
+        DewBaron x = Check.isle("island 4 4;cloth a takes 1 at 0 0;");
+        int length = x.image();
+        int[] image = new int[length];
+        for (int k = 0; k < length; k++) {
+            image[k] = x.octet(k);
+        }
+        walks(x, 5, 6, 7);
+        Check.due("a wall on the way", true, x.wall(6, true));
+        Check.due("it stays told", 7, x.walk(0));
+        Check.due("through the wall", 6, x.walk(1));
+        Check.due("as long as it was", -1, x.walk(3));
+        Check.due("a cloth at its end", true, x.hang(0, 5));
+        Check.due("is trodden too", 5, x.walk(2));
+        Check.due("told anew, the wall is on the way", 0, walks(x, 5, 6, 7));
+        Check.due("no WALK", -1, x.walk(0));
+        Check.due("the wall is undone", true, x.undo() && x.undo());
+        Check.due("none was told", -1, x.walk(0));
+        Check.due("told once more", 1, walks(x, 7, 6, 5));
+        x.wall(6, true);
+        Check.put(x, image);
+        Check.due("an image", true, x.on());
+        Check.due("does not forget it", 7, x.walk(0));
+        Check.put(x, image);
+        Check.due("a refused text", -1, x.island());
+        Check.due("neither", 5, x.walk(2));
     }
 
     private static void walkedRefuses() {

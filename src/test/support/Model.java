@@ -567,7 +567,7 @@ final class Model {
     StringBuilder tape = new StringBuilder();
     int fault = 0;
     int place = NONE;
-    List<Integer> trodden = new ArrayList<>();
+    List<List<Integer>> walks = new ArrayList<>();
     List<Integer> image = new ArrayList<>();
     int[] refused = new int[6];
 
@@ -631,7 +631,7 @@ final class Model {
             now.drops.add(0);
         }
         past.clear();
-        trodden.clear();
+        walks = new ArrayList<>();
         return isle.statements;
     }
 
@@ -1005,9 +1005,9 @@ final class Model {
         return count;
     }
 
-    List<List<Integer>> walks() {
+    List<List<Integer>> walksOver(List<Integer> cells) {
         List<List<Integer>> all = new ArrayList<>();
-        List<Integer> sorted = new ArrayList<>(trodden);
+        List<Integer> sorted = new ArrayList<>(cells);
         sorted.sort(null);
         walksFrom(sorted, new ArrayList<>(), all);
         return all;
@@ -1042,13 +1042,12 @@ final class Model {
         if (cells.size() < 2 || cells.size() > 10) {
             return refuse(5);
         }
-        trodden = cells;
-        return walks().size();
+        walks = walksOver(cells);
+        return walks.size();
     }
 
     int walk(int k) {
-        List<List<Integer>> all = walks();
-        return all.isEmpty() || k < 0 || k >= all.get(0).size() ? NONE : all.get(0).get(k);
+        return walks.isEmpty() || k < 0 || k >= walks.get(0).size() ? NONE : walks.get(0).get(k);
     }
 
     int stores(int what) {
