@@ -585,7 +585,8 @@ public final class DewBaron {
 
     private boolean isImage(int length) {
         int last = dropsAt(plan.cisterns);
-        if (length != last + 1 || checkOf(tape, last) != tape[last]) {
+        // without an island there is none that the tape could be an image of
+        if (!hasIsland() || length != last + 1 || checkOf(tape, last) != tape[last]) {
             return false;
         }
         if (twoAt(0) > MOST_COUNTED) {

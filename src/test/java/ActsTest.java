@@ -16,6 +16,7 @@ final class ActsTest {
         octet();
         on();
         onRefuses();
+        onWithoutIsland();
         status();
         Check.end();
     }
@@ -351,6 +352,27 @@ final class ActsTest {
         Check.put(y, changed(empty, 2, 1, 4, 1, 5, 1));
         Check.due("walls in all other CELLS", true, y.on());
         Check.due("so many", 3, y.has(2));
+    }
+
+    private static void onWithoutIsland() {
+        DewBaron x = new DewBaron();
+        int[] octets = octets(x);
+        Check.put(x, octets);
+        Check.due("on of what image() wrote", false, x.on());
+        Check.due("the tape went", false, x.end(1));
+        Check.put(x, changed(octets, 0, 39, 1, 15));
+        Check.due("on of 9999 NIGHTS", false, x.on());
+        Check.due("status(5)", 2, x.status(5));
+        Check.due("NIGHTS", 0, x.has(10));
+        Check.due("a text with a FAULT", -1, Check.tell(x, "island 2 1;"));
+        Check.put(x, octets);
+        Check.due("on behind a text with a FAULT", false, x.on());
+        Check.tell(x, "island 2 2;");
+        Check.put(x, octets);
+        Check.due("on of too few bytes", false, x.on());
+        Check.put(x, octets(x));
+        Check.due("on with an island", true, x.on());
+        Check.due("status(5) behind all", 4, x.status(5));
     }
 
     private static void status() {

@@ -1102,7 +1102,7 @@ final class Model {
             in.add((int) c);
         }
         int cells = isle.wide * isle.high;
-        if (in.size() != 3 + cells + isle.cloths.size() + 2 * isle.cisterns.size()
+        if (cells == 0 || in.size() != 3 + cells + isle.cloths.size() + 2 * isle.cisterns.size()
             || in.remove(in.size() - 1) != check(in)) {
             return refuseFalse(5);
         }
