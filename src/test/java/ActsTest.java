@@ -109,17 +109,9 @@ final class ActsTest {
     /** Puts an island of 2 by 2 with a CISTERN and no cloth into a state by its image. */
     private static void image(DewBaron x, int nights, int drops, int... walls) {
         int[] octets = {nights / 256, nights % 256, walls[0], walls[1], walls[2], walls[3], drops / 256, drops % 256, 0};
-        octets[8] = check(octets);
+        octets[8] = Check.seal(octets, 8);
         Check.put(x, octets);
         Check.due("on", true, x.on());
-    }
-
-    private static int check(int[] octets) {
-        int c = 79;
-        for (int i = 0; i + 1 < octets.length; i++) {
-            c = (5 * c + octets[i]) % 251;
-        }
-        return c;
     }
 
     private static void nights() {
@@ -241,7 +233,7 @@ final class ActsTest {
         // NIGHTS, nine CELLS, two cloths, a CISTERN, the check
         Check.due("bytes", 2 + 9 + 2 + 2 + 1, x.image());
         int[] due = {280 / 256, 280 % 256, 1, 0, 0, 0, 0, 0, 0, 0, 1, 3, 7, drops / 256, drops % 256, 0};
-        due[15] = check(due);
+        due[15] = Check.seal(due, 15);
         for (int k = 0; k < due.length; k++) {
             Check.due("octet " + k, due[k], x.octet(k));
         }
@@ -269,20 +261,12 @@ final class ActsTest {
         Check.due("the new one", -1, x.octet(7));
     }
 
-    private static int[] octets(DewBaron x) {
-        int[] octets = new int[x.image()];
-        for (int k = 0; k < octets.length; k++) {
-            octets[k] = x.octet(k);
-        }
-        return octets;
-    }
-
     private static void on() {
         DewBaron x = Check.isle(ISLE);
         x.hang(1, 7);
         x.wall(8, true);
         x.night();
-        int[] octets = octets(x);
+        int[] octets = Check.octets(x);
         x.undo();
         x.undo();
         x.undo();
@@ -300,44 +284,34 @@ final class ActsTest {
         Check.due("undo", false, x.undo());
         Check.due("the seed stays", 9, x.has(12));
         Check.due("the tape went", false, x.end(1));
-        Check.put(x, changed(octets, 0, 39, 1, 15, 13, 39, 14, 15));
+        Check.put(x, Check.changed(octets, 0, 39, 1, 15, 13, 39, 14, 15));
         Check.due("9999 of both", true, x.on());
         Check.due("9999 NIGHTS", 9999, x.has(10));
         Check.due("9999 drops", 9999, x.cistern(0, 1));
-        Check.put(x, changed(octets, 2, 0, 11, 0, 12, 3));
+        Check.put(x, Check.changed(octets, 2, 0, 11, 0, 12, 3));
         Check.due("a cloth where the text has another one, or a wall", true, x.on());
         Check.due("its CELL", 0, x.thing(0, 0));
         Check.due("the other one's", 3, x.thing(2, 0));
     }
 
-    /** An image with bytes changed: places and bytes by turns; its check is made right. */
-    private static int[] changed(int[] octets, int... changes) {
-        int[] it = octets.clone();
-        for (int i = 0; i < changes.length; i += 2) {
-            it[changes[i]] = changes[i + 1];
-        }
-        it[it.length - 1] = check(it);
-        return it;
-    }
-
     private static void onRefuses() {
         DewBaron x = Check.isle(ISLE);
         x.night();
-        int[] octets = octets(x);
+        int[] octets = Check.octets(x);
         int[] torn = octets.clone();
         torn[15] = (torn[15] + 1) % 251;
-        int[][] wrong = {{}, {0, 0, 218}, torn, java.util.Arrays.copyOf(octets, 15), java.util.Arrays.copyOf(octets, 17),
-            changed(octets, 0, 39, 1, 16), changed(octets, 0, 255), changed(octets, 13, 39, 14, 16),
-            changed(octets, 2, 2), changed(octets, 3, 1), changed(octets, 4, 1), changed(octets, 6, 1),
-            changed(octets, 8, 1), changed(octets, 5, 1), changed(octets, 11, 0), changed(octets, 11, 1),
-            changed(octets, 11, 2), changed(octets, 11, 4), changed(octets, 11, 5), changed(octets, 11, 6),
-            changed(octets, 11, 9), changed(octets, 11, 255), changed(octets, 12, 3), changed(octets, 10, 1, 12, 8)};
+        int[][] wrong = {{}, {0, 0, 218}, torn, java.util.Arrays.copyOf(octets, 15), java.util.Arrays.copyOf(octets, 17)};
+        int[][] changes = {{0, 39, 1, 16}, {0, 255}, {13, 39, 14, 16}, {2, 2}, {3, 1}, {4, 1}, {6, 1}, {8, 1}, {5, 1}, {11, 0},
+            {11, 1}, {11, 2}, {11, 4}, {11, 5}, {11, 6}, {11, 9}, {11, 255}, {12, 3}, {10, 1, 12, 8}};
         for (int i = 0; i < wrong.length; i++) {
-            Check.put(x, wrong[i]);
-            Check.due("on of wrong " + i, false, x.on());
+            Check.due("on of wrong " + i, false, Check.on(x, wrong[i]));
             Check.due("the tape went of wrong " + i, false, x.end(1));
         }
-        Check.due("status(5)", wrong.length, x.status(5));
+        for (int i = 0; i < changes.length; i++) {
+            Check.due("on of changed " + i, false, Check.on(x, Check.changed(octets, changes[i])));
+            Check.due("the tape went of changed " + i, false, x.end(1));
+        }
+        Check.due("status(5)", wrong.length + changes.length, x.status(5));
         Check.due("NIGHTS stay", 1, x.has(10));
         Check.due("ACTS stay", 1, x.has(11));
         Check.due("drops stay", 100, x.cistern(0, 1));
@@ -346,21 +320,21 @@ final class ActsTest {
         Check.put(x, octets);
         Check.due("the right one", true, x.on());
         DewBaron y = Check.isle("island 2 2;stone takes 1 at 1 0;");
-        int[] empty = octets(y);
-        Check.put(y, changed(empty, 3, 1));
+        int[] empty = Check.octets(y);
+        Check.put(y, Check.changed(empty, 3, 1));
         Check.due("a wall where the first THING is, a stone", false, y.on());
-        Check.put(y, changed(empty, 2, 1, 4, 1, 5, 1));
+        Check.put(y, Check.changed(empty, 2, 1, 4, 1, 5, 1));
         Check.due("walls in all other CELLS", true, y.on());
         Check.due("so many", 3, y.has(2));
     }
 
     private static void onWithoutIsland() {
         DewBaron x = new DewBaron();
-        int[] octets = octets(x);
+        int[] octets = Check.octets(x);
         Check.put(x, octets);
         Check.due("on of what image() wrote", false, x.on());
         Check.due("the tape went", false, x.end(1));
-        Check.put(x, changed(octets, 0, 39, 1, 15));
+        Check.put(x, Check.changed(octets, 0, 39, 1, 15));
         Check.due("on of 9999 NIGHTS", false, x.on());
         Check.due("status(5)", 2, x.status(5));
         Check.due("NIGHTS", 0, x.has(10));
@@ -370,7 +344,7 @@ final class ActsTest {
         Check.tell(x, "island 2 2;");
         Check.put(x, octets);
         Check.due("on of too few bytes", false, x.on());
-        Check.put(x, octets(x));
+        Check.put(x, Check.octets(x));
         Check.due("on with an island", true, x.on());
         Check.due("status(5) behind all", 4, x.status(5));
     }

@@ -318,11 +318,7 @@ final class CraftTest {
     /** The WALKS are those that were told: no ACT and no image changes them. */
     private static void walkStaysTold() {
         DewBaron x = Check.isle("island 4 4;cloth a takes 1 at 0 0;");
-        int length = x.image();
-        int[] image = new int[length];
-        for (int k = 0; k < length; k++) {
-            image[k] = x.octet(k);
-        }
+        int[] image = Check.octets(x);
         walks(x, 5, 6, 7);
         Check.due("a wall on the way", true, x.wall(6, true));
         Check.due("it stays told", 7, x.walk(0));
@@ -390,12 +386,7 @@ final class CraftTest {
     /** Takes an image that is told but for its last byte. */
     private static void on(DewBaron x, int... ahead) {
         int[] octets = java.util.Arrays.copyOf(ahead, ahead.length + 1);
-        int c = 79;
-        for (int it : ahead) {
-            c = (5 * c + it) % 251;
-        }
-        octets[ahead.length] = c;
-        Check.put(x, octets);
-        Check.due("on", true, x.on());
+        octets[ahead.length] = Check.seal(octets, ahead.length);
+        Check.due("on", true, Check.on(x, octets));
     }
 }

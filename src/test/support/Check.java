@@ -54,6 +54,52 @@ final class Check {
         due("status(1) of: " + text, 1, x.status(1));
     }
 
+    /** A text with ^ ahead of the byte that its FAULT is told of. */
+    static void faultAt(int kind, String marked) {
+        int place = marked.indexOf('^');
+        fault(marked.substring(0, place) + marked.substring(place + 1), kind, place);
+    }
+
+    static void taken(String text, int statements) {
+        DewBaron x = new DewBaron();
+        due("island() of: " + text, statements, tell(x, text));
+        due("fault(0) of: " + text, 0, x.fault(0));
+        due("fault(1) of: " + text, -1, x.fault(1));
+        due("status(1) of: " + text, 0, x.status(1));
+    }
+
+    /** What image() writes. */
+    static int[] octets(DewBaron x) {
+        int[] octets = new int[x.image()];
+        for (int k = 0; k < octets.length; k++) {
+            octets[k] = x.octet(k);
+        }
+        return octets;
+    }
+
+    static int seal(int[] octets, int length) {
+        int c = 79;
+        for (int i = 0; i < length; i++) {
+            c = (5 * c + octets[i]) % 251;
+        }
+        return c;
+    }
+
+    /** An image with bytes changed (places and bytes by turns), its last byte made right. */
+    static int[] changed(int[] octets, int... changes) {
+        int[] it = octets.clone();
+        for (int i = 0; i < changes.length; i += 2) {
+            it[changes[i]] = changes[i + 1];
+        }
+        it[it.length - 1] = seal(it, it.length - 1);
+        return it;
+    }
+
+    static boolean on(DewBaron x, int... octets) {
+        put(x, octets);
+        return x.on();
+    }
+
     static int four(int[] octets, int at) {
         return octets[at] << 24 | octets[at + 1] << 16 | octets[at + 2] << 8 | octets[at + 3];
     }
