@@ -40,6 +40,7 @@ final class EdgesOfActsTest {
         onOfAnImage();
         onOfTheEdges();
         onRefused();
+        onOfWallsOnThings();
         onOfTheWrongLength();
         onLeavesAll();
         onWithoutIsland();
@@ -588,9 +589,10 @@ final class EdgesOfActsTest {
             int[] octets = {0, nights, 0, 0, 0, 0, 0};
             octets[6] = Check.seal(octets, 6);
             seen[octets[6]] = true;
-            Check.due("on of " + nights, true, Check.on(x, octets));
-            x.image();
-            Check.due("the last byte of " + nights, octets[6], x.octet(6));
+            DewBaron each = Check.isle("island 2 2;");
+            Check.due("on of " + nights, true, Check.on(each, octets));
+            each.image();
+            Check.due("the last byte of " + nights, octets[6], each.octet(6));
         }
         Check.due("0 is one of them", true, seen[0]);
         Check.due("250 is one of them", true, seen[250]);
@@ -699,6 +701,25 @@ final class EdgesOfActsTest {
         refused("a wall where a cloth is hung", 11, 8, 10, 1);
     }
 
+    /** "walls where there is no HOUSE, stone, web, CISTERN", the first THING of all, the last one of ten. */
+    private static void onOfWallsOnThings() {
+        StringBuilder text = new StringBuilder("island 4 4;");
+        for (int i = 0; i < 10; i++) {
+            text.append(i % 2 == 0 ? "stone" : "web").append(" takes 1 at ").append(i % 4).append(' ').append(i / 4).append(';');
+        }
+        DewBaron x = Check.isle(text.toString());
+        int[] octets = Check.octets(x);
+        for (int cell = 0; cell < 16; cell++) {
+            Check.due("a wall in " + cell, cell >= 10, Check.on(x, Check.changed(octets, 2 + cell, 1)));
+        }
+        DewBaron y = Check.isle(text.toString().replace("stone takes 1 at 0 0", "cloth a takes 1 at 0 0"));
+        octets = Check.octets(y);
+        for (int cell = 1; cell < 16; cell++) {
+            Check.due("the cloth in " + cell, cell >= 10, Check.on(y, Check.changed(octets, 18, cell)));
+            Check.due("a wall in its place", cell >= 10, Check.on(y, Check.changed(octets, 18, cell, 2, 1)));
+        }
+    }
+
     private static void refused(String why, int... changes) {
         DewBaron x = Check.isle(SORTS);
         x.night();
@@ -728,7 +749,7 @@ final class EdgesOfActsTest {
         for (int wrong = 0; wrong < 256; wrong++) {
             int[] other = octets.clone();
             other[15] = wrong;
-            Check.due("the last byte " + wrong, wrong == octets[15], Check.on(x, other));
+            Check.due("the last byte " + wrong, wrong == octets[15], Check.on(Check.isle(SORTS), other));
         }
         int[] full = new int[1600];
         full[1599] = Check.seal(full, 1599);

@@ -306,13 +306,23 @@ final class EdgesOfTapeTest {
 
     /** "0 without", "none without", "5 without", whatever other texts told, taken or refused. */
     private static void nothingOfTheOldIsland() {
-        bareBehind(RICH);
-        bareBehind(RICH + "?");
-        bareBehind(RICH, RICH);
-        bareBehind(RICH, RICH + "?");
-        bareBehind(RICH, "island 2 2;");
-        bareBehind("island 2 2;", RICH + "?");
-        bareBehind(RICH + "?", "island 2 2;");
+        for (String bare : new String[] {"island 3 3;cloth b takes 1 at 1 1;cistern a at 2 2;",
+            "island 3 3;cloth b takes 1 at 1 1;cistern a at 2 2;dew 5;",
+            "island 3 3;cloth b takes 1 at 1 1;cistern a at 2 2;dew 5;dries 1;", "island 2 2;"}) {
+            bareBehind(bare, RICH);
+            bareBehind(bare, RICH + "?");
+            bareBehind(bare, RICH, RICH);
+            bareBehind(bare, RICH, RICH + "?");
+            bareBehind(bare, RICH, "island 2 2;");
+            bareBehind(bare, "island 2 2;", RICH + "?");
+            bareBehind(bare, RICH + "?", "island 2 2;");
+        }
+        DewBaron x = new DewBaron();
+        for (int i = 0; i < 4; i++) {
+            Check.due("one dew, one dries of each ISLAND", 22, Check.tell(x, RICH));
+            Check.due("and of each that is refused", -1, Check.tell(x, RICH + "?"));
+            Check.due("at the last byte", RICH.length(), x.fault(1));
+        }
     }
 
     /** Whatever may be told, unlike what there is without. */
@@ -321,14 +331,21 @@ final class EdgesOfTapeTest {
         + "cloth d takes 7 at 3 1;web takes 6 at 3 2;sky owsowsowsows;dew takes+3;dries hour;drinks 99;cloudy 77;wring 17;"
         + "height 5 at 0 2;";
 
-    private static void bareBehind(String... texts) {
-        String text = "island 3 3;cloth b takes 1 at 1 1;cistern a at 2 2;";
+    private static void bareBehind(String bare, String... texts) {
         DewBaron x = new DewBaron();
         for (String before : texts) {
             Check.tell(x, before);
+            // all is reckoned of each, so that nothing of it is left behind
+            x.whole(0);
+            x.order(-1);
+            x.alike(2, -1);
+            x.best(0);
+            x.stores(0);
+            x.nights(1);
         }
-        Check.due("a bare one", 3, Check.tell(x, text));
-        DewBaron y = Check.isle(text);
+        DewBaron y = new DewBaron();
+        Check.due("a bare one", Check.tell(y, bare), Check.tell(x, bare));
+        x.seed(1);
         Check.due("by the seed", y.nights(1), x.nights(1));
         x.image();
         y.image();
