@@ -712,12 +712,17 @@ public final class DewBaron {
         private static final int OWN_LETTERS = 7;
         private static final int DIGITS = 4;
 
+        static final int KIND_BITS = 3;
+        static final int KINDS = (1 << KIND_BITS) - 1;
+        static final int PLACE_BITS = 11;
+        static final int PLACES = (1 << PLACE_BITS) - 1;
+
         private final long[] ownKey = new long[OWN_WORDS];
-        final int[] kinds = new int[MOST_BYTES + 1];
-        /** The place of the first byte. */
-        final int[] firsts = new int[MOST_BYTES + 1];
-        /** A number; which OWN WORD; a NAME; skies, two bits each; a sign; where the BAD byte is. */
-        final int[] values = new int[MOST_BYTES + 1];
+        /**
+         * Value, place of the first byte and kind in one number, so that an object needs one row of them alone.
+         * The value: a number; which OWN WORD; a NAME; skies, two bits each; a sign; where the BAD byte is.
+         */
+        final long[] kept = new long[MOST_BYTES + 1];
         int count = 0;
         private int lastKind = END;
         private boolean lettersAsked = false;
@@ -819,10 +824,8 @@ public final class DewBaron {
         }
 
         private void put(int kind, int first, int value) {
-            if (count < kinds.length) {
-                kinds[count] = kind;
-                firsts[count] = first;
-                values[count] = value;
+            if (count < kept.length) {
+                kept[count] = ((long) value << PLACE_BITS | first) << KIND_BITS | kind;
                 count++;
             }
             lastKind = kind;
@@ -947,9 +950,9 @@ public final class DewBaron {
                 case Words.SKY:
                     return word(own) && letters(plan);
                 case Words.DEW:
-                    return word(own) && sum(plan.dew, 0);
+                    return word(own) && plan.sums.begin(Sums.DEW) && sum(plan.sums, 0);
                 case Words.DRIES:
-                    return word(own) && sum(plan.dries, 0);
+                    return word(own) && plan.sums.begin(Sums.DRIES) && sum(plan.sums, 0);
                 case Words.DRINKS:
                     return word(own) && drinks(plan);
                 case Words.CLOUDY:
@@ -974,9 +977,9 @@ public final class DewBaron {
                 case Words.WEB:
                     return plan.things >= MOST_THINGS;
                 case Words.DEW:
-                    return plan.dew.isTold();
+                    return plan.sums.isTold(Sums.DEW);
                 case Words.DRIES:
-                    return plan.dries.isTold();
+                    return plan.sums.isTold(Sums.DRIES);
                 default:
                     return false;
             }
@@ -1062,35 +1065,35 @@ public final class DewBaron {
         }
 
         /** The depth of this recursion is bounded by open: how many ( are open. */
-        private boolean sum(Sum sum, int open) {
-            boolean good = product(sum, open);
+        private boolean sum(Sums sums, int open) {
+            boolean good = product(sums, open);
             for (int i = 0; i < MOST_BYTES && good && isSign('+', '-', '-'); i++) {
                 int sign = value;
-                good = goTo(at + 1) && product(sum, open) && sum.add(-sign);
+                good = goTo(at + 1) && product(sums, open) && sums.add(-sign);
             }
             return good;
         }
 
-        private boolean product(Sum sum, int open) {
-            boolean good = part(sum, open);
+        private boolean product(Sums sums, int open) {
+            boolean good = part(sums, open);
             for (int i = 0; i < MOST_BYTES && good && isSign('*', '/', '%'); i++) {
                 int sign = value;
-                good = goTo(at + 1) && part(sum, open) && sum.add(-sign);
+                good = goTo(at + 1) && part(sums, open) && sums.add(-sign);
             }
             return good;
         }
 
-        private boolean part(Sum sum, int open) {
+        private boolean part(Sums sums, int open) {
             int own = kind == Words.OWN ? value : NONE;
             if (kind == Words.NUMBER) {
-                return sum.add(value) && goTo(at + 1);
+                return sums.add(value) && goTo(at + 1);
             }
             if (own == Words.TAKES) {
-                return sum.add(Sum.codeOf(Sum.TAKES)) && goTo(at + 1);
+                return sums.add(Sums.codeOf(Sums.TAKES)) && goTo(at + 1);
             }
             // these facts are numbered as their OWN WORDS are
             if (own >= Words.OPEN && own <= Words.WET) {
-                return sum.add(Sum.codeOf(own - Words.OPEN)) && goTo(at + 1);
+                return sums.add(Sums.codeOf(own - Words.OPEN)) && goTo(at + 1);
             }
             boolean two = own == Words.MIN || own == Words.MAX;
             if (two) {
@@ -1102,10 +1105,10 @@ public final class DewBaron {
             if (open >= MOST_OPEN) {
                 return refuse(TOO_DEEP, first);
             }
-            boolean good = goTo(at + 1) && sum(sum, open + 1);
+            boolean good = goTo(at + 1) && sum(sums, open + 1);
             if (two) {
-                good = good && sign(',') && sum(sum, open + 1)
-                    && sum.add(own == Words.MIN ? Sum.LESSER : Sum.GREATER);
+                good = good && sign(',') && sum(sums, open + 1)
+                    && sums.add(own == Words.MIN ? Sums.LESSER : Sums.GREATER);
             }
             return good && sign(')');
         }
@@ -1124,10 +1127,11 @@ public final class DewBaron {
 
         private boolean goTo(int token) {
             boolean is = token >= 0 && token < words.count;
+            long found = is ? words.kept[token] : Words.END;
             at = token;
-            kind = is ? words.kinds[token] : Words.END;
-            first = is ? words.firsts[token] : 0;
-            value = is ? words.values[token] : 0;
+            kind = (int) found & Words.KINDS;
+            first = (int) (found >> Words.KIND_BITS) & Words.PLACES;
+            value = (int) (found >> Words.KIND_BITS + Words.PLACE_BITS);
             return true;
         }
 
@@ -1182,8 +1186,15 @@ public final class DewBaron {
         }
     }
 
-    /** A SUM, each sign behind the two numbers that it joins: numbers from 0 on, all else below 0. */
-    private static final class Sum {
+    /**
+     * Both SUMS of an ISLAND, each sign behind the two numbers that it joins: numbers from 0 on, all else below 0.
+     * They share a row, as one text tells them both.
+     */
+    private static final class Sums {
+        static final int DEW = 0;
+        static final int DRIES = 1;
+        private static final int BOTH = 2;
+
         static final int OPEN = 0;
         static final int HIGH = 1;
         static final int COLD = 2;
@@ -1209,14 +1220,29 @@ public final class DewBaron {
 
         private final int[] code = new int[MOST_BYTES];
         private int length = 0;
+        /** The SUM that is being told. */
+        private int which = DEW;
+        private final int[] from = new int[BOTH];
+        private final int[] until = new int[BOTH];
         private final int[] waiting = new int[MOST_WAITING];
 
         void clear() {
             length = 0;
+            Arrays.fill(from, 0);
+            Arrays.fill(until, 0);
         }
 
-        boolean isTold() {
-            return length > 0;
+        boolean begin(int sum) {
+            if (sum >= 0 && sum < BOTH) {
+                which = sum;
+                from[sum] = length;
+                until[sum] = length;
+            }
+            return true;
+        }
+
+        boolean isTold(int sum) {
+            return sum >= 0 && sum < BOTH && until[sum] > from[sum];
         }
 
         static int codeOf(int fact) {
@@ -1227,13 +1253,18 @@ public final class DewBaron {
             if (length < code.length) {
                 code[length] = step;
                 length++;
+                until[which] = length;
             }
             return true;
         }
 
-        int worth(int[] facts) {
+        /** What a SUM gives; 0 if it is not told. */
+        int worth(int sum, int[] facts) {
+            if (!isTold(sum)) {
+                return 0;
+            }
             int top = 0;
-            for (int i = 0; i < length; i++) {
+            for (int i = from[sum]; i < until[sum]; i++) {
                 int step = code[i];
                 if (step >= -FACTS) {
                     if (top < MOST_WAITING) {
@@ -1390,8 +1421,7 @@ public final class DewBaron {
         final int[] cloth = new int[MOST_THINGS];
         final int[] clothName = new int[MOST_THINGS];
         final int[] sky = new int[HOURS + 1];
-        final Sum dew = new Sum();
-        final Sum dries = new Sum();
+        final Sums sums = new Sums();
         int drinks = 0;
         int cloudy = 0;
         int wring = 5;
@@ -1406,8 +1436,7 @@ public final class DewBaron {
             things = 0;
             cloths = 0;
             Arrays.fill(sky, CLEAR);
-            dew.clear();
-            dries.clear();
+            sums.clear();
             drinks = 0;
             cloudy = 0;
             wring = 5;
@@ -1641,7 +1670,7 @@ public final class DewBaron {
         private final int[] clearHours = new int[HOURS + 1];
         private final int[] lower = new int[MOST_CELLS];
         private final int[] flowing = new int[MOST_CELLS];
-        private final int[] facts = new int[Sum.FACTS];
+        private final int[] facts = new int[Sums.FACTS];
         final int[][] came = new int[MOST_THINGS + 1][HOURS + 1];
         final int[][] dried = new int[MOST_THINGS + 1][HOURS + 1];
         final int[][] lies = new int[MOST_THINGS + 1][HOURS + 1];
@@ -1698,18 +1727,18 @@ public final class DewBaron {
             if (!plan.isCell(cell) || row < 0 || row > TRIED) {
                 return 0;
             }
-            facts[Sum.TAKES] = takes;
-            facts[Sum.OPEN] = plan.openness(land, cell);
-            facts[Sum.HIGH] = plan.height[cell];
-            facts[Sum.NEAR] = plan.housesBy(cell);
+            facts[Sums.TAKES] = takes;
+            facts[Sums.OPEN] = plan.openness(land, cell);
+            facts[Sums.HIGH] = plan.height[cell];
+            facts[Sums.NEAR] = plan.housesBy(cell);
             int wet = 0;
             for (int hour = 1; hour <= HOURS; hour++) {
                 lookUp(hour, coldIn(cell, hour));
-                facts[Sum.WET] = wet;
-                came[row][hour] = within(0, plan.dew.worth(facts), MOST_AN_HOUR);
+                facts[Sums.WET] = wet;
+                came[row][hour] = within(0, plan.sums.worth(Sums.DEW, facts), MOST_AN_HOUR);
                 wet += came[row][hour];
-                facts[Sum.WET] = wet;
-                dried[row][hour] = within(0, plan.dries.worth(facts), wet);
+                facts[Sums.WET] = wet;
+                dried[row][hour] = within(0, plan.sums.worth(Sums.DRIES, facts), wet);
                 wet -= dried[row][hour];
                 lies[row][hour] = wet;
             }
@@ -1717,11 +1746,11 @@ public final class DewBaron {
         }
 
         private void lookUp(int hour, int cold) {
-            facts[Sum.HOUR] = hour;
-            facts[Sum.COLD] = cold;
-            facts[Sum.CLOUDED] = sky[hour] == CLOUD ? 1 : 0;
-            facts[Sum.WINDY] = sky[hour] == WIND ? 1 : 0;
-            facts[Sum.SMOKY] = sky[hour] == SMOKE ? 1 : 0;
+            facts[Sums.HOUR] = hour;
+            facts[Sums.COLD] = cold;
+            facts[Sums.CLOUDED] = sky[hour] == CLOUD ? 1 : 0;
+            facts[Sums.WINDY] = sky[hour] == WIND ? 1 : 0;
+            facts[Sums.SMOKY] = sky[hour] == SMOKE ? 1 : 0;
         }
 
         int dawn(int thing) {
