@@ -13,6 +13,7 @@ final class NightTest {
         coldOfLikeOnes();
         dew();
         sums();
+        longSums();
         facts();
         whole();
         Check.end();
@@ -197,6 +198,29 @@ final class NightTest {
         sum("99", 99);
         sum("100", 99);
         sum("0-1", 0);
+    }
+
+    /** Both SUMS are kept in one row: neither takes from the other, however long, in whatever order they are told. */
+    private static void longSums() {
+        String isle = "island 2 2;web takes 9 at 1 1;";
+        int most = (1600 - isle.length() - "dew 7;dries 3;".length()) / 2;
+        DewBaron x = new DewBaron();
+        for (int n : new int[] {0, 1, most / 2, most - 1, most}) {
+            String dew = "dew " + "0+".repeat(n) + "7;";
+            String dries = "dries " + "0+".repeat(most - n) + "3;";
+            Check.due("dew first, " + n, 3 + 1, Check.tell(x, isle + dew + dries));
+            Check.due("by dawn", 48, x.whole(2));
+            Check.due("refused within the second", -1, Check.tell(x, isle + "dries 1+1;dew 2+(3+4"));
+            Check.due("by dawn still", 48, x.whole(2));
+            Check.due("dries first, " + n, 3 + 1, Check.tell(x, isle + dries + dew));
+            Check.due("came", 84, x.whole(0));
+            Check.due("dried", 36, x.whole(1));
+            Check.due("dew alone", 3, Check.tell(x, isle + dew));
+            Check.due("none dried", 0, x.whole(1));
+            Check.due("dries alone", 3, Check.tell(x, isle + dries));
+            Check.due("none came", 0, x.whole(0));
+        }
+        Check.due("the whole tape", 1600, isle.length() + 2 * most + "dew 7;dries 3;".length());
     }
 
     private static void facts() {
